@@ -804,7 +804,6 @@ public final class RollPunch {
         private void fillSounding() {
             int held = 0;
             for (int s = 0; s < STEPS; s++) {
-                held &= ~chains.starts[s];
                 sounding[s] = playing[s] | held;
                 int pedalGoesOn = playing[s] & ~chains.ends[s] & PEDAL_BIT;
                 held = pedalGoesOn != 0 ? held | chains.ends[s] : 0;

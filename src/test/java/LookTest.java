@@ -89,6 +89,13 @@ public final class LookTest {
         DUE.is("count(10)", x.count(10), 0);
         x.punch(0, 9, 1);
         DUE.is("wished", Due.steps(x, 5, 0, 10), "0 0 1 1 1 1 1 1 1 0 0");
+        RollPunch first = new RollPunch();
+        first.punch(0, 0, 1);
+        first.punch(0, 3, 1);
+        first.punch(1, 93, 1);
+        first.punch(0, 95, 1);
+        DUE.is("wished after step 0", Due.steps(first, 5, 0, 4), "0 1 1 0 0");
+        DUE.is("wished before step 95", Due.steps(first, 5, 92, 95), "0 0 1 0");
         x.punch(4, 85, 9);
         DUE.is("wished", Due.steps(x, 5, 76, 95), "0 0 0 0 0 0 0 0 0 0 0 0 0 0 0 0 0 0 0 0");
         x.set(1, 1);
@@ -125,6 +132,23 @@ public final class LookTest {
         DUE.is("to the next chain", x.played(6, 3), 94);
         x.punch(11, 93, 1);
         DUE.is("in one chain", x.played(6, 2) + " " + x.played(6, 3) + " " + x.played(6, 4), "95 95 3");
+    }
+
+    private static void soundingAtTheBorders() {
+        RollPunch x = new RollPunch();
+        x.punch(3, 0, 1);
+        x.punch(RollPunch.NONE, 0, 3);
+        x.punch(4, 95, 1);
+        x.punch(RollPunch.NONE, 95, 1);
+        DUE.is("played", Due.played(x), "3 0 0 2 1 0, 4 95 95 95 1 0");
+        DUE.is("played at the first ones", Due.steps(x, 2, 0, 3), "8 0 0 0");
+        DUE.is("sounding at the first ones", Due.steps(x, 3, 0, 3), "8 8 8 0");
+        DUE.is("pedal at the first ones", Due.steps(x, 4, 0, 3), "1 1 1 0");
+        DUE.is("played at the last ones", Due.steps(x, 2, 94, 95), "0 16");
+        DUE.is("sounding at the last ones", Due.steps(x, 3, 94, 95), "0 16");
+        DUE.is("pedal at the last ones", Due.steps(x, 4, 94, 95), "0 1");
+        DUE.is("chains of the pedal", x.count(8), 2);
+        DUE.is("steps of the pedal", x.count(9), 4);
     }
 
     private static void chains() {
@@ -244,6 +268,7 @@ public final class LookTest {
         step();
         wishedAtTheBorders();
         sounding();
+        soundingAtTheBorders();
         chains();
         played();
         tune();

@@ -132,6 +132,12 @@ public final class TextTest {
             DUE.is("the buffer stays", x.clearBuffer(), text.length());
         }
         DUE.is("counts", Due.counts(x), "0 0 0 0 0 0 0 0 0 0 0 0 0 0 0");
+        Due.write(x, "3@90:1,4@90:7");
+        DUE.state("punchAll() of a late one", () -> x.punchAll());
+        x.clearBuffer();
+        Due.write(x, "9@9:9");
+        DUE.is("punchAll() of fewer", x.punchAll(), 5);
+        x.undo();
         Due.write(x, "3@90:6,p@0:96,4@95:1");
         DUE.is("punchAll()", x.punchAll(), 4 + 49 + 1);
     }

@@ -55,6 +55,61 @@ public final class WouldBeTest {
         best(new RollPunch(), 95, 95, 0, 0);
     }
 
+    private static void bestSteerOfOneStep() {
+        RollPunch x = new RollPunch();
+        x.punch(8, 0, 1);
+        x.punch(8, 30, 1);
+        x.punch(8, 60, 1);
+        x.punch(8, 95, 1);
+        x.learn();
+        x.tear(0, 0, 1);
+        x.tear(95, 95, -1);
+        best(x, 0, 95, 0, 2);
+        best(x, 0, 0, -1, 3);
+        best(x, 1, 95, 0, 2);
+        best(x, 95, 95, 1, 3);
+        best(x, 0, 94, 0, 2);
+        x.tear(30, 30, 1);
+        x.tear(60, 60, -1);
+        best(x, 0, 95, -1, 2);
+        best(x, 0, 59, -1, 2);
+        best(x, 30, 30, -1, 1);
+        best(x, 31, 95, 1, 2);
+        x.tear(30, 60, 1);
+        best(x, 0, 30, -1, 2);
+        best(x, 30, 95, 0, 1);
+        best(x, 0, 60, 0, 1);
+        best(x, 30, 30, -2, 2);
+    }
+
+    // What an earlier question found has no say in a later one.
+    private static void questionsInTurn() {
+        RollPunch x = new RollPunch();
+        x.punch(8, 10, 1);
+        x.punch(8, 14, 1);
+        x.punch(8, 20, 1);
+        x.set(0, 2);
+        x.punch(8, 40, 4);
+        x.learn();
+        x.tear(0, 95, 1);
+        x.set(0, 0);
+        DUE.is("bestSteer(0, 95, 1)", x.bestSteer(0, 95, 1), 3);
+        DUE.is("bestBridge()", x.bestBridge(), 0);
+        DUE.is("bestBreak(1, 1)", x.bestBreak(1, 1), 0);
+        DUE.is("bestBreak(1, 0)", x.bestBreak(1, 0), 0);
+        DUE.is("bestBreak(-1, 1)", x.bestBreak(-1, 1), 3);
+        x.steer(0, 95, -1);
+        x.tear(20, 50, 1);
+        DUE.is("count(5)", x.count(5), 2);
+        DUE.is("bestBridge()", x.bestBridge(), 0);
+        DUE.is("bestSteer(40, 95, 1)", x.bestSteer(40, 95, 1), 2);
+        x.set(0, 2);
+        DUE.is("bestSteer(40, 95, 1)", x.bestSteer(40, 95, 1), 3);
+        x.tear(20, 50, -1);
+        x.set(0, 0);
+        DUE.is("bestBridge()", x.bestBridge(), 2);
+    }
+
     private static void bestSteerErrors() {
         RollPunch x = fourNotes();
         int[] steps = {-1, 96, LOW, HIGH};
@@ -138,6 +193,12 @@ public final class WouldBeTest {
         breaks(w, 1, 0, 0);
         w.tear(95, 95, -1);
         breaks(w, 1, 95, 1);
+        RollPunch v = new RollPunch();
+        v.punch(0, 0, 1);
+        v.learn();
+        v.tear(0, 0, 1);
+        breaks(v, -1, 0, 1);
+        breaks(v, 1, 0, 0);
     }
 
     private static void bestBreakErrors() {
@@ -253,6 +314,25 @@ public final class WouldBeTest {
         DUE.is("digest() again", x.digest(), ((empty * 31 + 2) * 31 + 'p') * 31 + '~');
     }
 
+    // The spans of bestSteer within the digest, by notes at their first and last steps.
+    private static void digestOfSpans() {
+        int[] steps = {0, 1, 46, 47, 48, 49, 94, 95};
+        for (int torn : steps) {
+            RollPunch x = new RollPunch();
+            x.set(0, 0);
+            for (int i = 0; i < steps.length; i++) {
+                x.punch(2 * i, steps[i], 1);
+            }
+            x.learn();
+            x.tear(torn, torn, 1);
+            DUE.is("digest() with step " + torn + " torn", x.digest(), digestByCalls(x) * 31);
+            x.tear(0, 95, -1);
+            DUE.is("digest() with all others torn", x.digest(), digestByCalls(x) * 31);
+            x.tear(0, 95, -1);
+            DUE.is("digest() with all torn", x.digest(), digestByCalls(x) * 31);
+        }
+    }
+
     // The bits of each share that 960 notes at the most can make.
     private static void digestOfShares() {
         RollPunch x = new RollPunch();
@@ -268,13 +348,16 @@ public final class WouldBeTest {
 
     public static void main(String[] args) {
         bestSteer();
+        bestSteerOfOneStep();
         bestSteerErrors();
+        questionsInTurn();
         bestBridge();
         bestBreak();
         bestBreakErrors();
         holesFor();
         tuneShare();
         digest();
+        digestOfSpans();
         digestOfShares();
         DUE.end();
     }
