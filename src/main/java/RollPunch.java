@@ -276,8 +276,8 @@ public final class RollPunch {
         hash = mixed(hash, paper.bridge);
         hash = mixed(hash, paper.reach);
         hash = mixedSteps(hash);
-        hash = mixedPlayed(hash);
-        hash = mixedTune(hash);
+        hash = mixedNotes(hash, false);
+        hash = mixedNotes(hash, true);
         hash = mixedBest(hash);
         hash = mixed(hash, bitsOfShare(rightShare()));
         return text.mixedInto(hash);
@@ -299,28 +299,15 @@ public final class RollPunch {
         return result;
     }
 
-    private long mixedPlayed(long hash) {
+    private long mixedNotes(long hash, boolean ofTheTune) {
+        Chains notes = ofTheTune ? paper.melody : heard.chains;
+        int largest = ofTheTune ? LAST_OF_TUNE : LAST_OF_PLAYED;
         long result = hash;
         for (int s = 0; s < STEPS; s++) {
             for (int voice = PEDAL + 1; voice < VOICES; voice++) {
-                if (heard.chains.beginsAt(voice, s)) {
-                    for (int what = 0; what <= LAST_OF_PLAYED; what++) {
-                        result = mixed(result, ofPlayed(voice, s, what));
-                    }
-                }
-            }
-        }
-        return result;
-    }
-
-    private long mixedTune(long hash) {
-        long result = hash;
-        for (int s = 0; s < STEPS; s++) {
-            for (int voice = PEDAL + 1; voice < VOICES; voice++) {
-                if (paper.melody.beginsAt(voice, s)) {
-                    for (int what = 0; what <= LAST_OF_TUNE; what++) {
-                        result = mixed(result, ofTune(voice, s, what));
-                    }
+                for (int what = 0; what <= largest && notes.beginsAt(voice, s); what++) {
+                    int value = ofTheTune ? ofTune(voice, s, what) : ofPlayed(voice, s, what);
+                    result = mixed(result, value);
                 }
             }
         }

@@ -1,3 +1,8 @@
+import java.lang.reflect.InvocationTargetException;
+import java.lang.reflect.Method;
+import java.lang.reflect.Modifier;
+import java.util.Arrays;
+
 /**
  * Runs of 512 calls, made by a fixed row of numbers, of which every answer is compared with that
  * of PlainRoll: all promises, in states that no hand would write down.
@@ -6,6 +11,8 @@ public final class ModelTest {
     private static final String[] NAMES = {"punch", "patch", "peel", "shift", "tear", "steer", "set", "learn",
         "append", "clearBuffer", "firstError", "punchAll", "undo", "place", "step", "played", "tune", "count",
         "setting", "bestSteer", "bestBridge", "bestBreak", "holesFor", "tuneShare", "digest"};
+    private static final Method[] PROGRAM = methodsOf(RollPunch.class);
+    private static final Method[] MODEL = methodsOf(PlainRoll.class);
     private static final String SIGNS = "p0123456789@:,";
     private static final int[] ODD = {Integer.MIN_VALUE, -1000, -4, -2, -1, 0, 1, 3, 4, 9, 20, 26, 96, 97, 1000,
         Integer.MAX_VALUE};
@@ -25,79 +32,30 @@ public final class ModelTest {
         return low + below(high - low + 1);
     }
 
-    private static long answer(RollPunch x, int[] c) {
-        switch (c[0]) {
-            case 0: return x.punch(c[1], c[2], c[3]);
-            case 1: return x.patch(c[1], c[2], c[3]);
-            case 2: return x.peel(c[1], c[2], c[3]);
-            case 3: return x.shift(c[1]);
-            case 4: return x.tear(c[1], c[2], c[3]);
-            case 5: return x.steer(c[1], c[2], c[3]);
-            case 6: return x.set(c[1], c[2]);
-            case 7: return x.learn();
-            case 8: return x.append(c[1]);
-            case 9: return x.clearBuffer();
-            case 10: return x.firstError();
-            case 11: return x.punchAll();
-            case 12: return x.undo();
-            case 13: return x.place(c[1], c[2], c[3]);
-            case 14: return x.step(c[1], c[2]);
-            case 15: return x.played(c[1], c[2]);
-            case 16: return x.tune(c[1], c[2]);
-            case 17: return x.count(c[1]);
-            case 18: return x.setting(c[1]);
-            case 19: return x.bestSteer(c[1], c[2], c[3]);
-            case 20: return x.bestBridge();
-            case 21: return x.bestBreak(c[1], c[2]);
-            case 22: return x.holesFor(c[1]);
-            case 23: return Double.doubleToRawLongBits(x.tuneShare());
-            default: return x.digest();
+    private static Method[] methodsOf(Class<?> kind) {
+        Method[] all = new Method[NAMES.length];
+        for (Method m : kind.getDeclaredMethods()) {
+            int op = Arrays.asList(NAMES).indexOf(m.getName());
+            // PlainRoll has private helpers of the same names, with other arguments.
+            if (op >= 0 && !Modifier.isPrivate(m.getModifiers())) {
+                all[op] = m;
+            }
         }
+        return all;
     }
 
-    private static long answer(PlainRoll x, int[] c) {
-        switch (c[0]) {
-            case 0: return x.punch(c[1], c[2], c[3]);
-            case 1: return x.patch(c[1], c[2], c[3]);
-            case 2: return x.peel(c[1], c[2], c[3]);
-            case 3: return x.shift(c[1]);
-            case 4: return x.tear(c[1], c[2], c[3]);
-            case 5: return x.steer(c[1], c[2], c[3]);
-            case 6: return x.set(c[1], c[2]);
-            case 7: return x.learn();
-            case 8: return x.append(c[1]);
-            case 9: return x.clearBuffer();
-            case 10: return x.firstError();
-            case 11: return x.punchAll();
-            case 12: return x.undo();
-            case 13: return x.place(c[1], c[2], c[3]);
-            case 14: return x.step(c[1], c[2]);
-            case 15: return x.played(c[1], c[2]);
-            case 16: return x.tune(c[1], c[2]);
-            case 17: return x.count(c[1]);
-            case 18: return x.setting(c[1]);
-            case 19: return x.bestSteer(c[1], c[2], c[3]);
-            case 20: return x.bestBridge();
-            case 21: return x.bestBreak(c[1], c[2]);
-            case 22: return x.holesFor(c[1]);
-            case 23: return Double.doubleToRawLongBits(x.tuneShare());
-            default: return x.digest();
+    private static String outcome(Object x, Method[] all, int[] c) {
+        Method m = all[c[0]];
+        Object[] arguments = new Object[m.getParameterCount()];
+        for (int i = 0; i < arguments.length; i++) {
+            arguments[i] = c[i + 1];
         }
-    }
-
-    private static String outcome(RollPunch x, int[] c) {
         try {
-            return "" + answer(x, c);
-        } catch (RuntimeException e) {
-            return e.getClass().getName();
-        }
-    }
-
-    private static String outcome(PlainRoll x, int[] c) {
-        try {
-            return "" + answer(x, c);
-        } catch (RuntimeException e) {
-            return e.getClass().getName();
+            return "" + m.invoke(x, arguments);
+        } catch (InvocationTargetException e) {
+            return e.getCause().getClass().getName();
+        } catch (IllegalAccessException e) {
+            throw new AssertionError(e);
         }
     }
 
@@ -158,8 +116,8 @@ public final class ModelTest {
     }
 
     private static boolean agree(Due due, String run, RollPunch x, PlainRoll plain, int[] c) {
-        String got = outcome(x, c);
-        String want = outcome(plain, c);
+        String got = outcome(x, PROGRAM, c);
+        String want = outcome(plain, MODEL, c);
         due.is(run + " " + NAMES[c[0]] + "(" + c[1] + ", " + c[2] + ", " + c[3] + ")", got, want);
         return got.equals(want);
     }
