@@ -1,3 +1,5 @@
+import java.util.Map;
+
 /** Prints every call whose answer is not the one that is due, and counts them. */
 final class Due {
     interface Call {
@@ -27,6 +29,21 @@ final class Due {
         is(call, Double.doubleToRawLongBits(got), Double.doubleToRawLongBits(want));
     }
 
+    /** Of two pictures, prints the first answer that differs. */
+    void same(String what, Map<String, Long> got, Map<String, Long> want) {
+        if (!got.keySet().equals(want.keySet())) {
+            wrong(what + ": " + got.size() + " answers, due are " + want.size());
+            return;
+        }
+        for (Map.Entry<String, Long> answer : got.entrySet()) {
+            Long due = want.get(answer.getKey());
+            if (!answer.getValue().equals(due)) {
+                wrong(what + ": " + answer.getKey() + " answered " + answer.getValue() + ", due is " + due);
+                return;
+            }
+        }
+    }
+
     void bounds(String call, Call made) {
         fails(call, made, IndexOutOfBoundsException.class);
     }
@@ -37,6 +54,10 @@ final class Due {
 
     void state(String call, Call made) {
         fails(call, made, IllegalStateException.class);
+    }
+
+    void throwsJust(String call, Class<?> kind, Call made) {
+        fails(call, made, kind);
     }
 
     // Just this class: what the machine throws is of a class below it.

@@ -4,6 +4,18 @@ public final class LookTest {
     private static final int LOW = Integer.MIN_VALUE;
     private static final int HIGH = Integer.MAX_VALUE;
     private static final int[] STEPS = {-1, 96, LOW, HIGH};
+    private static final Script EMPTY = new Script();
+    // 48 chains of the pedal and of each note, at each second step.
+    private static final Script MOST_CHAINS = mostChains();
+
+    private static Script mostChains() {
+        Script run = EMPTY;
+        for (int note = -1; note <= 19; note++) {
+            int n = note;
+            run = run.then(x -> x.punch(n, 0, 95));
+        }
+        return run.then(x -> x.set(0, 0));
+    }
 
     private static String readTracks(RollPunch x, int step) {
         StringBuilder row = new StringBuilder();
@@ -263,17 +275,139 @@ public final class LookTest {
         }
     }
 
+    // "As a bit mask": the first and the last bit, and all of them.
+    private static void masks() {
+        Script low = EMPTY.then(x -> x.punch(0, 10, 1), x -> x.punch(RollPunch.NONE, 10, 2));
+        Script high = EMPTY.then(x -> x.punch(19, 10, 1), x -> x.punch(RollPunch.NONE, 10, 2));
+        for (int what = 2; what <= 3; what++) {
+            int w = what;
+            DUE.is("step(10, " + w + ") of note 0", low.ask(x -> x.step(10, w)), 1);
+            DUE.is("step(10, " + w + ") of note 19", high.ask(x -> x.step(10, w)), 1 << 19);
+            DUE.is("step(11, " + w + ") of note 0", low.ask(x -> x.step(11, w)), w == 2 ? 0 : 1);
+            DUE.is("step(11, " + w + ") of note 19", high.ask(x -> x.step(11, w)), w == 2 ? 0 : 1 << 19);
+            DUE.is("step(0, " + w + ") of all", MOST_CHAINS.ask(x -> x.step(0, w)), (1 << 20) - 1);
+            DUE.is("step(94, " + w + ") of all", MOST_CHAINS.ask(x -> x.step(94, w)), (1 << 20) - 1);
+            DUE.is("step(93, " + w + ") of none", MOST_CHAINS.ask(x -> x.step(93, w)), 0);
+            DUE.is("step(95, " + w + ") of none", MOST_CHAINS.ask(x -> x.step(95, w)), 0);
+        }
+        DUE.is("step(0, 6) of all own tracks", MOST_CHAINS.ask(x -> x.step(0, 6)), (1 << 23) - 4);
+        DUE.is("step(1, 6)", MOST_CHAINS.ask(x -> x.step(1, 6)), 0);
+        DUE.is("step(0, 6) further", MOST_CHAINS.then(x -> x.shift(3)).ask(x -> x.step(0, 6)), (1 << 26) - 32);
+        DUE.is("step(0, 6) lower", MOST_CHAINS.then(x -> x.shift(-2)).ask(x -> x.step(0, 6)), (1 << 21) - 1);
+    }
+
+    // "The steps at which a note is played" include those between its holes.
+    private static void playedBetweenHoles() {
+        Script run = EMPTY.then(x -> x.set(0, 3), x -> x.punch(4, 0, 96), x -> x.punch(RollPunch.NONE, 50, 5));
+        for (int step = 0; step < 96; step++) {
+            int s = step;
+            DUE.is("step(" + s + ", 2)", run.ask(x -> x.step(s, 2)), 16);
+            DUE.is("step(" + s + ", 3)", run.ask(x -> x.step(s, 3)), 16);
+            DUE.is("step(" + s + ", 4)", run.ask(x -> x.step(s, 4)), s >= 50 && s <= 54 ? 1 : 0);
+        }
+    }
+
+    // "How many open holes it has": from one to one at each step, without those below patches or aside.
+    private static void holesOfNotes() {
+        Script row = EMPTY.then(x -> x.set(0, 0), x -> x.punch(4, 0, 96), x -> x.set(0, 3));
+        DUE.is("all steps", row.ask(x -> x.played(0, 4)), 96);
+        DUE.is("one below a patch", row.then(x -> x.patch(7, 40, 40)).ask(x -> x.played(0, 4)), 95);
+        DUE.is("three below patches", row.then(x -> x.patch(7, 40, 42)).ask(x -> x.played(0, 4)), 93);
+        DUE.is("three aside", row.then(x -> x.steer(40, 42, -1)).ask(x -> x.played(0, 4)), 93);
+        DUE.is("the note that they are of", row.then(x -> x.steer(40, 42, -1)).ask(x -> x.played(1, 0)), 5);
+        DUE.is("four below patches, before", row.then(x -> x.patch(7, 40, 43)).ask(x -> x.played(0, 4)), 40);
+        DUE.is("four below patches, behind", row.then(x -> x.patch(7, 40, 43)).ask(x -> x.played(1, 4)), 52);
+        DUE.is("the last step alone", row.then(x -> x.patch(7, 0, 94)).ask(x -> x.played(0, 4)), 1);
+        DUE.is("the first step alone", row.then(x -> x.patch(7, 1, 95)).ask(x -> x.played(0, 4)), 1);
+        DUE.is("none", row.then(x -> x.patch(7, 0, 95)).ask(x -> x.count(3)), 0);
+    }
+
+    // The most notes and chains that there can be.
+    private static void mostOfAll() {
+        DUE.is("counts", Due.counts(MOST_CHAINS.then(x -> x.learn()).play()),
+                "1008 1008 0 960 960 960 0 0 48 48 47 0 0 0 6");
+        DUE.is("counts of a tune of nothing", Due.counts(MOST_CHAINS.play()),
+                "1008 1008 0 960 0 0 960 0 48 48 47 960 0 0 6");
+        Script last = MOST_CHAINS.then(x -> x.learn());
+        DUE.is("played(959, 0)", last.ask(x -> x.played(959, 0)), 19);
+        DUE.is("played(959, 1)", last.ask(x -> x.played(959, 1)), 94);
+        DUE.is("played(940, 0)", last.ask(x -> x.played(940, 0)), 0);
+        DUE.is("played(939, 1)", last.ask(x -> x.played(939, 1)), 92);
+        DUE.is("tune(959, 2)", last.ask(x -> x.tune(959, 2)), 94);
+        DUE.is("tune(940, 0)", last.ask(x -> x.tune(940, 0)), 0);
+        RollPunch x = last.play();
+        DUE.bounds("played(960, 0)", () -> x.played(960, 0));
+        DUE.bounds("tune(960, 0)", () -> x.tune(960, 0));
+        DUE.is("two notes beyond what is read", last.then(y -> y.shift(1), y -> y.shift(-3)).ask(y -> y.count(7)), 96);
+        DUE.is("three notes, then two beyond", last.then(y -> y.steer(0, 47, 3), y -> y.steer(48, 95, -3))
+                .ask(y -> y.count(5)), 17 * 24 + 18 * 24);
+    }
+
+    // "Steps at which it would be wished": the most are all but two.
+    private static void mostWished() {
+        Script wide = EMPTY.then(x -> x.set(1, 8), x -> x.set(0, 0));
+        for (int step = 0; step < 95; step += 9) {
+            int s = step;
+            wide = wide.then(x -> x.punch(7, s, 1));
+        }
+        Script run = wide.then(x -> x.punch(7, 95, 1));
+        DUE.is("count(10)", run.ask(x -> x.count(10)), 96 - 12);
+        DUE.is("a step without it", run.ask(x -> x.step(90, 5)), 0);
+        DUE.is("a step with it", run.ask(x -> x.step(94, 5)), 1);
+        DUE.is("count(10) of a reach of 7", run.then(x -> x.set(1, 7)).ask(x -> x.count(10)), 10 * 6 + 4);
+    }
+
+    // "Open holes that are not read": each track that no note is read from, at each step.
+    private static void holesNotRead() {
+        for (int track = 0; track < 26; track++) {
+            int t = track;
+            int note = Math.max(-1, Math.min(19, t - 3));
+            int by = t - (note == -1 ? 2 : note + 3);
+            Script run = EMPTY.then(x -> x.punch(note, 33, 1), x -> x.shift(by));
+            DUE.is("place(33, " + t + ", 0)", run.ask(x -> x.place(33, t, 0)), 1);
+            for (int aside = -3; aside <= 3; aside++) {
+                int a = aside;
+                int own = t - 2 * a;
+                Script read = run.then(x -> x.tear(33, 33, a), x -> x.steer(33, 33, a));
+                DUE.is("count(12), track " + t + ", aside " + 2 * a, read.ask(x -> x.count(12)),
+                        own >= 2 && own <= 22 ? 0 : 1);
+                DUE.is("count(12) below a patch", read.then(x -> x.patch(t, 33, 33)).ask(x -> x.count(12)), 0);
+            }
+        }
+    }
+
+    // "Open holes of wrong notes": neither those of right ones nor those of the pedal.
+    private static void holesOfWrongNotes() {
+        Script two = EMPTY.then(x -> x.punch(3, 0, 5), x -> x.punch(4, 91, 5), x -> x.punch(RollPunch.NONE, 40, 9));
+        DUE.is("without a tune", two.ask(x -> x.count(11)), 6);
+        Script learned = two.then(x -> x.learn());
+        DUE.is("of right ones", learned.ask(x -> x.count(11)), 0);
+        DUE.is("the first one longer", learned.then(x -> x.punch(3, 5, 1)).ask(x -> x.count(11)), 4);
+        DUE.is("the last one shorter", learned.then(x -> x.patch(7, 95, 95)).ask(x -> x.count(11)), 2);
+        DUE.is("in two parts", learned.then(x -> x.set(0, 0)).ask(x -> x.count(11)), 6);
+        DUE.is("one more", learned.then(x -> x.punch(19, 95, 1)).ask(x -> x.count(11)), 1);
+        DUE.is("none is played", learned.then(x -> x.patch(6, 0, 95), x -> x.patch(7, 0, 95))
+                .ask(x -> x.count(11)), 0);
+    }
+
     public static void main(String[] args) {
         place();
         step();
+        masks();
+        playedBetweenHoles();
         wishedAtTheBorders();
+        mostWished();
         sounding();
         soundingAtTheBorders();
         chains();
         played();
+        holesOfNotes();
         tune();
         count();
+        mostOfAll();
         notRead();
+        holesNotRead();
+        holesOfWrongNotes();
         setting();
         DUE.end();
     }

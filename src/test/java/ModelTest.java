@@ -135,7 +135,7 @@ public final class ModelTest {
         int notes = below(2) == 0 ? 3 : 19;
         int calls = 0;
         boolean good = true;
-        while (calls < 512 && good) {
+        while (calls < 511 && good) {
             if (below(20) == 0 && calls < 400) {
                 for (char sign : row().toCharArray()) {
                     good &= agree(due, run, x, plain, new int[] {8, sign, 0, 0});
@@ -149,7 +149,7 @@ public final class ModelTest {
             int op = chosen();
             good &= agree(due, run + " call " + calls, x, plain, below(10) == 0 ? odd(op) : made(op, notes));
             calls++;
-            if (calls % 32 == 0) {
+            if (calls % 32 == 0 || calls == 511) {
                 good &= agree(due, run + " call " + calls, x, plain, new int[] {24, 0, 0, 0});
                 calls++;
             }

@@ -3,6 +3,7 @@ public final class SteeringTest {
     private static final Due DUE = new Due("SteeringTest");
     private static final int LOW = Integer.MIN_VALUE;
     private static final int HIGH = Integer.MAX_VALUE;
+    private static final Script EMPTY = new Script();
 
     private static RollPunch threeNotes() {
         RollPunch x = new RollPunch();
@@ -174,13 +175,131 @@ public final class SteeringTest {
         DUE.is("bestSteer(0, 95, 1)", x.bestSteer(0, 95, 1), 960);
     }
 
+    // "-3 to 3": each edge that there is, and each number by which it can become greater.
+    private static void everyEdge() {
+        for (int edge = -3; edge <= 3; edge++) {
+            for (int by = -3; by <= 3; by++) {
+                int e = edge;
+                int b = by;
+                RollPunch x = EMPTY.then(y -> y.tear(50, 51, e)).play();
+                String call = "tear(51, 52, " + b + ") of an edge of " + e;
+                if (e + b < -3 || e + b > 3) {
+                    DUE.state(call, () -> x.tear(51, 52, b));
+                    DUE.is("edges behind " + call, Due.steps(x, 0, 49, 53), "0 " + e + " " + e + " 0 0");
+                } else {
+                    DUE.is(call, x.tear(51, 52, b), 0);
+                    DUE.is("edges behind " + call, Due.steps(x, 0, 49, 53), "0 " + e + " " + (e + b) + " " + b + " 0");
+                    int torn = (e != 0 ? 1 : 0) + (e + b != 0 ? 1 : 0) + (b != 0 ? 1 : 0);
+                    DUE.is("count(13) behind " + call, x.count(13), torn);
+                }
+            }
+        }
+    }
+
+    // "From one to another one": the edges beside them neither change nor stand against it.
+    private static void tearFromTo() {
+        Script ends = EMPTY.then(x -> x.tear(0, 0, 3), x -> x.tear(95, 95, -3));
+        DUE.is("count(13)", ends.ask(x -> x.count(13)), 2);
+        DUE.is("beside an edge of 3", ends.then(x -> x.tear(1, 94, 3)).ask(x -> x.count(13)), 96);
+        DUE.is("beside an edge of -3", ends.then(x -> x.tear(1, 94, -3)).ask(x -> x.count(13)), 96);
+        DUE.is("by 0, at both ends of the range", ends.ask(x -> x.tear(0, 95, 0)), 0);
+        RollPunch x = ends.play();
+        DUE.state("with an edge of 3", () -> x.tear(0, 94, 1));
+        DUE.state("with an edge of -3", () -> x.tear(1, 95, -1));
+        DUE.state("with both, up", () -> x.tear(0, 95, 1));
+        DUE.state("with both, down", () -> x.tear(0, 95, -1));
+        DUE.is("one step", Due.steps(EMPTY.then(y -> y.tear(7, 7, 1)).play(), 0, 6, 8), "0 1 0");
+        DUE.is("the first step", Due.steps(EMPTY.then(y -> y.tear(0, 0, 1)).play(), 0, 0, 1), "1 0");
+        DUE.is("the last step", Due.steps(EMPTY.then(y -> y.tear(95, 95, 1)).play(), 0, 94, 95), "0 1");
+        DUE.is("all steps", EMPTY.then(y -> y.tear(0, 95, -1)).ask(y -> y.count(13)), 96);
+    }
+
+    // "Becomes a number": whatever it was, and at no other step.
+    private static void everySteering() {
+        for (int was = -3; was <= 3; was++) {
+            for (int by = -3; by <= 3; by++) {
+                int w = was;
+                int b = by;
+                RollPunch x = EMPTY.then(y -> y.steer(50, 52, w), y -> y.steer(51, 51, b)).play();
+                DUE.is("steering", Due.steps(x, 1, 49, 53), "0 " + w + " " + b + " " + w + " 0");
+                DUE.is("edges", Due.steps(x, 0, 49, 53), "0 0 0 0 0");
+                DUE.is("count(13)", x.count(13), 0);
+            }
+        }
+        DUE.is("the first step", Due.steps(EMPTY.then(y -> y.steer(0, 0, 3)).play(), 1, 0, 1), "3 0");
+        DUE.is("the last step", Due.steps(EMPTY.then(y -> y.steer(95, 95, -3)).play(), 1, 94, 95), "0 -3");
+    }
+
+    // "How many notes are right then": with what has just changed, from none to all.
+    private static void rightThen() {
+        Script three = EMPTY.then(x -> x.punch(3, 0, 1), x -> x.punch(4, 50, 5), x -> x.punch(5, 95, 1));
+        DUE.is("without a tune", three.ask(x -> x.steer(0, 95, 0)), 0);
+        Script learned = three.then(x -> x.learn());
+        DUE.is("all", learned.ask(x -> x.steer(0, 95, 0)), 3);
+        DUE.is("but the first", learned.ask(x -> x.steer(0, 0, 1)), 2);
+        DUE.is("but the last", learned.ask(x -> x.tear(95, 95, -1)), 2);
+        DUE.is("but the one between", learned.ask(x -> x.tear(54, 54, 1)), 2);
+        DUE.is("none", learned.ask(x -> x.tear(0, 95, 1)), 0);
+        DUE.is("all again", learned.then(x -> x.tear(0, 95, 1)).ask(x -> x.steer(0, 95, -1)), 3);
+        DUE.is("a step between without a hole", learned.ask(x -> x.tear(51, 51, 3)), 3);
+        DUE.is("shift by 0", learned.ask(x -> x.shift(0)), 3);
+        DUE.is("shift by 1", learned.ask(x -> x.shift(1)), 0);
+        DUE.is("a wrong one is not counted", learned.then(x -> x.punch(9, 9, 1)).ask(x -> x.shift(0)), 3);
+    }
+
+    // Both ends of both settings, with what they do at once.
+    private static void setAtTheEnds() {
+        Script gaps = EMPTY.then(x -> x.punch(3, 40, 1), x -> x.punch(3, 44, 1), x -> x.punch(3, 49, 1));
+        int[] chains = {3, 3, 3, 2};
+        int[] wishes = {0, 0, 1, 5, 7, 7, 7, 7, 7};
+        for (int value = 0; value <= 3; value++) {
+            int v = value;
+            DUE.is("set(0, " + v + ")", gaps.ask(x -> x.set(0, v)), 1);
+            DUE.is("set(0, " + v + ") again", gaps.then(x -> x.set(0, v)).ask(x -> x.set(0, v)), v);
+            DUE.is("setting(0) of " + v, gaps.then(x -> x.set(0, v)).ask(x -> x.setting(0)), v);
+            DUE.is("count(3) with a bridge of " + v, gaps.then(x -> x.set(0, v)).ask(x -> x.count(3)), chains[v]);
+        }
+        for (int value = 0; value <= 8; value++) {
+            int v = value;
+            DUE.is("set(1, " + v + ")", gaps.ask(x -> x.set(1, v)), 2);
+            DUE.is("set(1, " + v + ") again", gaps.then(x -> x.set(1, v)).ask(x -> x.set(1, v)), v);
+            DUE.is("setting(1) of " + v, gaps.then(x -> x.set(1, v)).ask(x -> x.setting(1)), v);
+            DUE.is("count(10) with a reach of " + v, gaps.then(x -> x.set(1, v)).ask(x -> x.count(10)), wishes[v]);
+        }
+        DUE.is("setting(1) beside setting 0", gaps.then(x -> x.set(0, 3)).ask(x -> x.setting(1)), 2);
+        DUE.is("setting(0) beside setting 1", gaps.then(x -> x.set(1, 3)).ask(x -> x.setting(0)), 1);
+    }
+
+    // "The notes that are played now are the tune": of none there is none, even if there was one.
+    private static void learnNothing() {
+        Script learned = EMPTY.then(x -> x.punch(3, 0, 1), x -> x.punch(4, 50, 5), x -> x.learn());
+        DUE.is("learn() again", learned.ask(x -> x.learn()), 2);
+        Script silent = learned.then(x -> x.patch(6, 0, 95), x -> x.patch(7, 0, 95));
+        DUE.is("count(7)", silent.ask(x -> x.count(7)), 2);
+        DUE.is("learn() of silence", silent.ask(x -> x.learn()), 0);
+        Script empty = silent.then(x -> x.learn());
+        DUE.is("count(4)", empty.ask(x -> x.count(4)), 0);
+        DUE.is("count(7)", empty.ask(x -> x.count(7)), 0);
+        RollPunch x = empty.play();
+        DUE.bounds("tune(0, 0)", () -> x.tune(0, 0));
+        DUE.isExactly("tuneShare()", x.tuneShare(), 0.0);
+        DUE.is("the tune before it by undo()", Due.tune(empty.undone(1).play()), "3 0 0 1, 4 50 54 1");
+        DUE.is("one note", EMPTY.then(y -> y.punch(19, 95, 1)).ask(y -> y.learn()), 1);
+    }
+
     public static void main(String[] args) {
         tear();
         tearErrors();
+        everyEdge();
+        tearFromTo();
         steer();
+        everySteering();
+        rightThen();
         readBesideTheTracks();
         set();
+        setAtTheEnds();
         learn();
+        learnNothing();
         learnMost();
         DUE.end();
     }

@@ -1,8 +1,10 @@
-/** Promises 10 to 14: append, clearBuffer, firstError, punchAll, undo. */
+/** Promises 10 to 13: append, clearBuffer, firstError, punchAll. */
 public final class TextTest {
     private static final Due DUE = new Due("TextTest");
     private static final int LOW = Integer.MIN_VALUE;
     private static final int HIGH = Integer.MAX_VALUE;
+    private static final Script EMPTY = new Script();
+    private static final String DIGITS = "0123456789";
 
     private static void append() {
         RollPunch x = new RollPunch();
@@ -142,106 +144,122 @@ public final class TextTest {
         DUE.is("punchAll()", x.punchAll(), 4 + 49 + 1);
     }
 
-    private static void undo() {
-        RollPunch x = new RollPunch();
-        DUE.state("undo()", () -> x.undo());
-        long[] before = new long[10];
-        for (int i = 0; i < 10; i++) {
-            before[i] = withoutSaved(x);
-            x.punch(i, i, 3);
-            x.tear(i, i, 1);
-            x.undo();
-            DUE.is("count(14)", x.count(14), Math.min(i + 1, 5));
-            x.steer(i, i, 2);
-            x.undo();
+    // Each code from 33 to 126 behind a text: those that may come next, and all others.
+    private static void next(String text, String allowed) {
+        for (int code = 33; code <= 126; code++) {
+            int c = code;
+            int due = allowed.indexOf(c) >= 0 ? text.length() + 1 : text.length();
+            DUE.is("firstError() of " + text + (char) c, EMPTY.write(text).then(x -> x.append(c))
+                    .ask(x -> x.firstError()), due);
         }
-        // Each round's tear or steer pushed the oldest state out once six were saved.
-        int left = x.count(14);
-        DUE.is("count(14)", left, 5);
-        for (int i = 9; i >= 5; i--) {
-            DUE.is("undo()", x.undo(), i - 5);
-            DUE.is("the state before punch " + i, withoutSaved(x), before[i]);
-        }
-        DUE.state("undo()", () -> x.undo());
-        DUE.is("count(3)", x.count(3), 5);
     }
 
-    private static long withoutSaved(RollPunch x) {
-        long sum = x.count(0) + 100L * x.count(1) + 10000L * x.count(2) + 1000000L * x.count(3) + 77L * x.count(13);
-        for (int s = 0; s < 96; s++) {
-            for (int what = 0; what <= 6; what++) {
-                sum = 31 * sum + x.step(s, what);
+    // "p or a note, 0 to 19, then @, a step, 0 to 95, :, and a length, 1 to 96", "without leading zeros".
+    private static void everyNextSign() {
+        String[] starts = {"", "7@7:7,", "p@10:96,19@95:1,"};
+        for (String start : starts) {
+            next(start, "p" + DIGITS);
+            next(start + "p", "@");
+            next(start + "0", "@");
+            next(start + "1", "@" + DIGITS);
+            for (int note = 2; note <= 19; note++) {
+                next(start + note, "@");
             }
         }
-        return sum;
+        String[] notes = {"p", "0", "1", "19"};
+        for (String note : notes) {
+            next(note + "@", DIGITS);
+            next(note + "@0", ":");
+            for (int step = 1; step <= 95; step++) {
+                next(note + "@" + step, step < 9 ? ":" + DIGITS : step == 9 ? ":012345" : ":");
+            }
+        }
+        String[] places = {"p@0", "0@9", "19@95"};
+        for (String place : places) {
+            next(place + ":", "123456789");
+            for (int length = 1; length <= 96; length++) {
+                next(place + ":" + length, length < 9 ? "," + DIGITS : length == 9 ? ",0123456" : ",");
+            }
+        }
     }
 
-    private static void undoOfEach() {
-        RollPunch x = new RollPunch();
-        x.punch(3, 5, 5);
-        x.learn();
-        x.punch(4, 5, 5);
-        x.tear(5, 6, 1);
-        x.steer(5, 6, -1);
-        x.patch(7, 7, 7);
-        x.set(0, 2);
-        x.set(1, 5);
-        x.undo();
-        x.undo();
-        DUE.is("settings", x.setting(0) + " " + x.setting(1), "1 2");
-        DUE.is("counts", Due.counts(x), "6 5 1 3 1 1 2 0 0 0 0 2 0 2 4");
-        x.undo();
-        DUE.is("counts", Due.counts(x), "6 6 0 2 1 1 1 0 0 0 0 3 0 2 3");
-        x.undo();
-        DUE.is("steering", Due.steps(x, 1, 4, 7), "0 0 0 0");
-        DUE.is("counts", Due.counts(x), "6 6 0 3 1 1 2 0 0 0 0 3 0 2 2");
-        x.undo();
-        DUE.is("counts", Due.counts(x), "6 6 0 2 1 1 1 0 0 0 0 3 0 0 1");
-        DUE.is("undo()", x.undo(), 0);
-        DUE.is("counts", Due.counts(x), "3 3 0 1 1 1 0 0 0 0 0 0 0 0 0");
-        DUE.state("undo(): the first two are dropped", () -> x.undo());
+    // "If no row of notes, of any length, begins with": a full buffer may be cut off anywhere.
+    private static void fullBuffer() {
+        String row = "7@7:7,".repeat(10);
+        DUE.is("60 characters with a comma at the end", EMPTY.write(row).ask(x -> x.firstError()), 60);
+        String[] ends = {"p@95:9", "p@0:95", "p@95:,", "p@95:0", "p@95::", "7@7,7,", "x@7:7,", "p@77:7"};
+        int[] due = {60, 60, 59, 59, 59, 57, 54, 60};
+        for (int i = 0; i < ends.length; i++) {
+            String text = row.substring(0, 54) + ends[i];
+            DUE.is("firstError() of " + text, EMPTY.write(text).ask(x -> x.firstError()), due[i]);
+        }
+        DUE.is("of two errors the first", EMPTY.write("0@0:0,x").ask(x -> x.firstError()), 4);
+        DUE.is("60 errors", EMPTY.write("~".repeat(60)).ask(x -> x.firstError()), 0);
+        DUE.is("59 characters", EMPTY.write(row.substring(0, 59)).ask(x -> x.firstError()), 59);
+        DUE.is("a late one is no syntax error", EMPTY.write("p@95:96,0@95:2").ask(x -> x.firstError()), 14);
+        DUE.is("append() behind 59", EMPTY.write("!".repeat(59)).ask(x -> x.append('!')), 60);
+        DUE.is("clearBuffer() of 60", EMPTY.write("!".repeat(60)).ask(x -> x.clearBuffer()), 60);
+        DUE.is("append() behind clearBuffer()", EMPTY.write("!".repeat(60)).then(x -> x.clearBuffer())
+                .ask(x -> x.append('!')), 1);
+        DUE.is("firstError() behind clearBuffer()", EMPTY.write("!".repeat(60)).then(x -> x.clearBuffer())
+                .ask(x -> x.firstError()), 0);
     }
 
-    // A call that changes nothing is saved too, one that throws or only tells is not.
-    private static void saved() {
-        RollPunch x = new RollPunch();
-        x.shift(0);
-        x.tear(0, 0, 0);
-        x.steer(0, 0, 0);
-        x.set(0, 1);
-        x.peel(0, 0, 0);
-        DUE.is("count(14)", x.count(14), 5);
-        x.bestSteer(0, 95, 0);
-        x.bestBridge();
-        x.bestBreak(1, 0);
-        x.holesFor(3);
-        x.digest();
-        x.firstError();
-        x.append(33);
-        x.clearBuffer();
-        DUE.is("count(14)", x.count(14), 5);
-        DUE.state("punch(0, 95, 2)", () -> x.punch(0, 95, 2));
-        DUE.is("count(14)", x.count(14), 5);
-        DUE.is("undo()", x.undo(), 4);
-        x.patch(0, 0, 0);
-        x.patch(0, 0, 0);
-        x.patch(0, 1, 1);
-        DUE.is("count(14)", x.count(14), 6);
-        x.undo();
-        x.undo();
-        DUE.is("count(2)", x.count(2), 1);
-        x.undo();
-        DUE.is("count(2)", x.count(2), 0);
+    // A row that fills the buffer, with ten parts; and the shortest one.
+    private static void punchAllOfFullBuffer() {
+        String full = "0@0:1,1@1:1,2@2:1,3@3:1,4@4:1,5@5:1,6@6:1,7@7:1,8@8:1,p@90:6";
+        DUE.is("its length", full.length(), 60);
+        Script run = EMPTY.write(full);
+        DUE.is("punchAll() of 60 characters", run.ask(x -> x.punchAll()), 9 + 4);
+        Script punched = run.then(x -> x.punchAll());
+        DUE.is("notes then", punched.ask(x -> x.count(3)), 9);
+        DUE.is("the pedal at the last step", punched.ask(x -> x.step(95, 4)), 1);
+        DUE.is("the buffer then", punched.ask(x -> x.clearBuffer()), 0);
+        DUE.is("firstError() then", punched.ask(x -> x.firstError()), 0);
+        DUE.is("append() then", punched.ask(x -> x.append('p')), 1);
+        Script byPunch = EMPTY;
+        for (int note = 0; note <= 8; note++) {
+            int n = note;
+            byPunch = byPunch.then(x -> x.punch(n, n, 1));
+        }
+        byPunch = byPunch.then(x -> x.punch(RollPunch.NONE, 90, 6));
+        DUE.is("digest() behind undo()", punched.undone(1).ask(x -> x.digest()), EMPTY.ask(x -> x.digest()));
+        for (int step = 0; step < 96; step++) {
+            int s = step;
+            DUE.is("step(" + s + ", 6)", punched.ask(x -> x.step(s, 6)), byPunch.ask(x -> x.step(s, 6)));
+        }
+        DUE.is("punchAll() of 0@0:1", EMPTY.write("0@0:1").ask(x -> x.punchAll()), 1);
+        DUE.is("punchAll() of p@95:1", EMPTY.write("p@95:1").ask(x -> x.punchAll()), 1);
+        DUE.is("punchAll() of 19@0:96", EMPTY.write("19@0:96").ask(x -> x.punchAll()), 49);
+        DUE.is("punchAll() of 19@89:7", EMPTY.write("19@89:7").ask(x -> x.punchAll()), 4);
+    }
+
+    // "Each one as punch() does": by the bridge, below patches, and what is punched twice is none more.
+    private static void punchAllInTurn() {
+        Script twice = EMPTY.write("3@5:4,3@5:4");
+        DUE.is("the same one twice", twice.ask(x -> x.punchAll()), 3);
+        Script below = EMPTY.then(x -> x.punch(3, 5, 4), x -> x.patch(6, 0, 95)).write("3@5:1,3@8:3");
+        DUE.is("below patches", below.ask(x -> x.punchAll()), 1);
+        DUE.is("patches then", below.then(x -> x.punchAll()).ask(x -> x.count(2)), 96 - 3);
+        Script none = EMPTY.then(x -> x.punch(3, 5, 4)).write("3@5:4");
+        DUE.is("no hole more", none.ask(x -> x.punchAll()), 0);
+        DUE.is("it is saved all the same", none.then(x -> x.punchAll()).ask(x -> x.count(14)), 2);
+        for (int bridge = 0; bridge <= 3; bridge++) {
+            int b = bridge;
+            int[] due = {96, 49, 33, 25};
+            DUE.is("bridge " + b, EMPTY.then(x -> x.set(0, b)).write("7@0:96").ask(x -> x.punchAll()), due[b]);
+        }
     }
 
     public static void main(String[] args) {
         append();
         firstError();
+        everyNextSign();
+        fullBuffer();
         punchAll();
         punchAllErrors();
-        undo();
-        undoOfEach();
-        saved();
+        punchAllOfFullBuffer();
+        punchAllInTurn();
         DUE.end();
     }
 }

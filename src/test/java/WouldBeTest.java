@@ -1,8 +1,11 @@
+import java.math.BigInteger;
+
 /** Promises 21 to 26: bestSteer, bestBridge, bestBreak, holesFor, tuneShare, digest. */
 public final class WouldBeTest {
     private static final Due DUE = new Due("WouldBeTest");
     private static final int LOW = Integer.MIN_VALUE;
     private static final int HIGH = Integer.MAX_VALUE;
+    private static final Script EMPTY = new Script();
 
     // Notes at 10 to 12, 20 to 22, 30 to 32 and 40 to 42, all learned.
     private static RollPunch fourNotes() {
@@ -257,106 +260,287 @@ public final class WouldBeTest {
         DUE.isExactly("tuneShare() with a wrong one", x.tuneShare(), 1 / 7.0);
     }
 
-    private static long digestByCalls(RollPunch x) {
-        long hash = 2371;
-        for (int what = 0; what <= 14; what++) {
-            hash = 31 * hash + x.count(what);
+    // The document's list, without a bound; what "overflow" leaves of it are its last 64 bits.
+    private static long digestByAnswers(Script run, String buffer) {
+        BigInteger hash = BigInteger.valueOf(2371);
+        for (long value : run.digestedAnswers().values()) {
+            hash = hash.multiply(BigInteger.valueOf(31)).add(BigInteger.valueOf(value));
         }
-        hash = 31 * hash + x.setting(0);
-        hash = 31 * hash + x.setting(1);
-        for (int s = 0; s < 96; s++) {
-            for (int what = 0; what <= 6; what++) {
-                hash = 31 * hash + x.step(s, what);
-            }
+        hash = hash.multiply(BigInteger.valueOf(31)).add(BigInteger.valueOf(buffer.length()));
+        for (char code : buffer.toCharArray()) {
+            hash = hash.multiply(BigInteger.valueOf(31)).add(BigInteger.valueOf(code));
         }
-        for (int i = 0; i < x.count(3); i++) {
-            for (int what = 0; what <= 5; what++) {
-                hash = 31 * hash + x.played(i, what);
-            }
-        }
-        for (int i = 0; i < x.count(4); i++) {
-            for (int what = 0; what <= 3; what++) {
-                hash = 31 * hash + x.tune(i, what);
-            }
-        }
-        int[] ends = {0, 95, 0, 47, 48, 95};
-        for (int i = 0; i < 6; i += 2) {
-            hash = 31 * hash + x.bestSteer(ends[i], ends[i + 1], 0);
-            hash = 31 * hash + x.bestSteer(ends[i], ends[i + 1], 1);
-        }
-        hash = 31 * hash + x.bestBridge();
-        hash = 31 * hash + x.bestBreak(1, 0);
-        hash = 31 * hash + x.bestBreak(1, 1);
-        hash = 31 * hash + x.bestBreak(-1, 0);
-        hash = 31 * hash + x.bestBreak(-1, 1);
-        return 31 * hash + Double.doubleToLongBits(x.tuneShare());
+        return hash.longValue();
+    }
+
+    private static void digestOf(String when, Script run) {
+        DUE.is("digest() " + when, run.ask(x -> x.digest()), digestByAnswers(run, ""));
     }
 
     private static void digest() {
-        RollPunch x = new RollPunch();
-        DUE.is("digest() of nothing", x.digest(), digestByCalls(x) * 31);
-        for (int n = 0; n < 20; n++) {
-            x.punch(n, 2 * n, n + 1);
+        digestOf("of nothing", EMPTY);
+        Script run = EMPTY;
+        for (int note = 0; note < 20; note++) {
+            int n = note;
+            run = run.then(x -> x.punch(n, 2 * n, n + 1));
         }
-        x.learn();
-        DUE.is("digest()", x.digest(), digestByCalls(x) * 31);
-        x.punch(RollPunch.NONE, 3, 20);
-        for (int n = 0; n < 20; n++) {
-            x.patch(n + 3, 2 * n, 2 * n);
-            DUE.is("digest()", x.digest(), digestByCalls(x) * 31);
+        run = run.then(x -> x.learn());
+        digestOf("of all right", run);
+        run = run.then(x -> x.punch(RollPunch.NONE, 3, 20));
+        for (int note = 0; note < 20; note++) {
+            int n = note;
+            run = run.then(x -> x.patch(n + 3, 2 * n, 2 * n));
+            digestOf("of " + n + " wrong", run);
         }
-        x.tear(50, 95, 1);
-        x.steer(10, 20, -1);
-        DUE.is("digest()", x.digest(), digestByCalls(x) * 31);
-        long empty = digestByCalls(x);
-        Due.write(x, "p~");
-        DUE.is("digest() with a buffer", x.digest(), ((empty * 31 + 2) * 31 + 'p') * 31 + '~');
-        DUE.is("digest() again", x.digest(), ((empty * 31 + 2) * 31 + 'p') * 31 + '~');
+        run = run.then(x -> x.tear(50, 95, 1), x -> x.steer(10, 20, -1));
+        digestOf("of a torn one", run);
+        digestOf("of changed settings", run.then(x -> x.set(0, 3), x -> x.set(1, 8)));
+    }
+
+    // "The length of the buffer and each of its character codes", from none to 60.
+    private static void digestOfBuffers() {
+        Script run = EMPTY.then(x -> x.punch(3, 4, 5), x -> x.learn());
+        String[] buffers = {"!", "~", "p~", "~p", "3@4:5", "!".repeat(59), "!".repeat(60), "p@0:1,".repeat(10)};
+        for (String buffer : buffers) {
+            Script written = run.write(buffer);
+            DUE.is("digest() with " + buffer, written.ask(x -> x.digest()), digestByAnswers(run, buffer));
+            DUE.is("digest() again", written.then(x -> x.digest()).ask(x -> x.digest()),
+                    digestByAnswers(run, buffer));
+            DUE.is("digest() without it", written.then(x -> x.clearBuffer()).ask(x -> x.digest()),
+                    digestByAnswers(run, ""));
+            DUE.is("digest() with a shorter one", written.then(x -> x.clearBuffer(), x -> x.append('p'))
+                    .ask(x -> x.digest()), digestByAnswers(run, "p"));
+        }
+    }
+
+    // The most notes that there can be, all right, all wrong, or some of them.
+    private static void digestOfMost() {
+        Script most = EMPTY;
+        for (int note = -1; note <= 19; note++) {
+            int n = note;
+            most = most.then(x -> x.punch(n, 0, 95));
+        }
+        most = most.then(x -> x.set(0, 0));
+        digestOf("of 960 wrong ones", most);
+        Script learned = most.then(x -> x.learn());
+        digestOf("of 960 right ones", learned);
+        digestOf("of 959 right ones", learned.then(x -> x.patch(22, 94, 94)));
+        Script one = learned.then(x -> x.set(0, 1), x -> x.patch(22, 0, 93));
+        DUE.is("right notes", one.ask(x -> x.count(5)), 1);
+        digestOf("of one right note", one);
+        digestOf("of a full roll", learned.then(x -> x.punch(0, 0, 96), x -> x.set(0, 3)));
     }
 
     // The spans of bestSteer within the digest, by notes at their first and last steps.
     private static void digestOfSpans() {
         int[] steps = {0, 1, 46, 47, 48, 49, 94, 95};
         for (int torn : steps) {
-            RollPunch x = new RollPunch();
-            x.set(0, 0);
+            Script run = EMPTY.then(x -> x.set(0, 0));
             for (int i = 0; i < steps.length; i++) {
-                x.punch(2 * i, steps[i], 1);
+                int n = 2 * i;
+                int s = steps[i];
+                run = run.then(x -> x.punch(n, s, 1));
             }
-            x.learn();
-            x.tear(torn, torn, 1);
-            DUE.is("digest() with step " + torn + " torn", x.digest(), digestByCalls(x) * 31);
-            x.tear(0, 95, -1);
-            DUE.is("digest() with all others torn", x.digest(), digestByCalls(x) * 31);
-            x.tear(0, 95, -1);
-            DUE.is("digest() with all torn", x.digest(), digestByCalls(x) * 31);
+            run = run.then(x -> x.learn(), x -> x.tear(torn, torn, 1));
+            digestOf("with step " + torn + " torn", run);
+            run = run.then(x -> x.tear(0, 95, -1));
+            digestOf("with all others torn", run);
+            digestOf("with all torn", run.then(x -> x.tear(0, 95, -1)));
         }
     }
 
-    // The bits of each share that 960 notes at the most can make.
+    // The bits of shares that can be written down in binary digits and of such that can't.
     private static void digestOfShares() {
-        RollPunch x = new RollPunch();
-        for (int n = 0; n < 13; n++) {
-            x.punch(n, 7 * n, 1);
+        for (int notes = 1; notes <= 13; notes++) {
+            Script run = EMPTY;
+            for (int note = 0; note < notes; note++) {
+                int n = note;
+                run = run.then(x -> x.punch(n, 7 * n, 1));
+            }
+            run = run.then(x -> x.learn());
+            for (int note = 0; note < notes; note++) {
+                int n = note;
+                digestOf("of a share of " + (notes - n) + " in " + notes, run);
+                run = run.then(x -> x.patch(n + 3, 7 * n, 7 * n));
+            }
+            digestOf("of a share of 0", run);
         }
-        x.learn();
-        for (int n = 0; n < 13; n++) {
-            x.patch(n + 3, 7 * n, 7 * n);
-            DUE.is("digest() of a share " + x.tuneShare(), x.digest(), digestByCalls(x) * 31);
+    }
+
+    // "By which most notes would be right, of several the one nearest to 0, of two the one below 0."
+    private static void everySteering() {
+        Script pair = EMPTY.then(x -> x.punch(8, 10, 3), x -> x.punch(8, 80, 3), x -> x.learn());
+        for (int first = -3; first <= 3; first++) {
+            for (int second = -3; second <= 3; second++) {
+                int a = first;
+                int b = second;
+                RollPunch x = pair.then(y -> y.tear(0, 47, a), y -> y.tear(48, 95, b)).play();
+                boolean isFirst = Math.abs(a) < Math.abs(b) || Math.abs(a) == Math.abs(b) && a > 0;
+                best(x, 0, 95, isFirst ? -a : -b, a == b ? 2 : 1);
+                best(x, 0, 47, -a, b == 0 ? 2 : 1);
+                best(x, 48, 95, -b, a == 0 ? 2 : 1);
+            }
+        }
+    }
+
+    // "Of all these steps": what the steering was there doesn't matter, beside them it stays.
+    private static void steeringThatIs() {
+        for (int was = -3; was <= 3; was++) {
+            int w = was;
+            Script pair = EMPTY.then(x -> x.punch(8, 10, 3), x -> x.punch(8, 80, 3), x -> x.learn(),
+                    x -> x.steer(0, 95, w));
+            RollPunch x = pair.play();
+            best(x, 0, 95, 0, 2);
+            best(x, 0, 47, 0, w == 0 ? 2 : 1);
+            best(x, 48, 95, 0, w == 0 ? 2 : 1);
+            best(x, 10, 12, 0, w == 0 ? 2 : 1);
+            best(x, 82, 82, 0, w == 0 ? 2 : 0);
+            DUE.is("steering at the ends", x.step(0, 1) + " " + x.step(95, 1), w + " " + w);
+            DUE.is("count(14)", x.count(14), 4);
+        }
+        best(EMPTY.then(x -> x.punch(8, 10, 3)).play(), 0, 95, 0, 0);
+        best(EMPTY.then(x -> x.punch(8, 10, 3), x -> x.steer(0, 95, -3)).play(), 0, 95, 0, 0);
+    }
+
+    // What the steering would bring together or take apart counts as well.
+    private static void steeringMakesChains() {
+        Script row = EMPTY.then(x -> x.set(0, 0), x -> x.punch(8, 20, 6), x -> x.learn(), x -> x.tear(22, 23, 2));
+        best(row.play(), 22, 23, -2, 1);
+        best(row.play(), 22, 22, 0, 0);
+        best(row.play(), 21, 24, 0, 0);
+        best(row.then(x -> x.set(0, 1)).play(), 22, 22, -2, 1);
+        best(row.then(x -> x.set(0, 2)).play(), 22, 23, 0, 1);
+        Script beside = EMPTY.then(x -> x.punch(8, 20, 3), x -> x.learn(), x -> x.punch(9, 23, 3));
+        best(beside.play(), 23, 95, 0, 1);
+        best(beside.then(x -> x.steer(23, 95, 1)).play(), 23, 95, 0, 1);
+    }
+
+    // "The value of setting 0, of several the least one": each one is the least of some.
+    private static void everyBridge() {
+        for (int bridge = 0; bridge <= 3; bridge++) {
+            int b = bridge;
+            Script learned = EMPTY.then(x -> x.set(0, b), x -> x.punch(4, 0, 1), x -> x.punch(4, 1 + b, 1),
+                    x -> x.punch(4, 90, 1), x -> x.learn());
+            for (int now = 0; now <= 3; now++) {
+                int n = now;
+                Script set = learned.then(x -> x.set(0, n));
+                DUE.is("bestBridge() of a gap of " + b + ", bridge " + n, set.ask(x -> x.bestBridge()), b);
+                DUE.is("setting(0) behind it", set.then(x -> x.bestBridge()).ask(x -> x.setting(0)), n);
+            }
+        }
+        DUE.is("bestBridge() without a tune", EMPTY.then(x -> x.set(0, 3), x -> x.punch(4, 0, 96))
+                .ask(x -> x.bestBridge()), 0);
+        DUE.is("bestBridge() with none right", EMPTY.then(x -> x.punch(4, 0, 9), x -> x.learn(), x -> x.shift(1))
+                .ask(x -> x.bestBridge()), 0);
+        Script apart = EMPTY.then(x -> x.punch(4, 0, 1), x -> x.punch(4, 3, 1), x -> x.punch(5, 0, 1),
+                x -> x.punch(5, 2, 1), x -> x.learn());
+        DUE.is("one chain and two chains", apart.ask(x -> x.bestBridge()), 1);
+        DUE.is("two right by 0, one right by 1", apart.then(x -> x.patch(8, 0, 95), x -> x.set(0, 3))
+                .ask(x -> x.bestBridge()), 0);
+    }
+
+    // "Those that would be beyond -3 or 3 being -3 or 3."
+    private static void breaksAtTheEndsOfTheRange() {
+        for (int was = -3; was <= 3; was++) {
+            for (int by = -3; by <= 3; by++) {
+                int w = was;
+                int b = by;
+                int then = Math.max(-3, Math.min(3, w + b));
+                Script pair = EMPTY.then(x -> x.punch(8, 0, 1), x -> x.punch(8, 95, 1), x -> x.learn(),
+                        x -> x.steer(0, 95, w));
+                RollPunch helped = pair.then(x -> x.tear(0, 95, -then)).play();
+                breaks(helped, b, 0, 2);
+                RollPunch good = pair.then(x -> x.tear(0, 95, -w)).play();
+                breaks(good, b, then == w ? 0 : 1, then == w ? 2 : 1);
+                RollPunch half = pair.then(x -> x.tear(0, 94, -w), x -> x.tear(95, 95, -then)).play();
+                breaks(half, b, then == w ? 0 : 1, 2);
+                DUE.is("the steering stays", half.step(0, 1) + " " + half.step(95, 1), w + " " + w);
+            }
+        }
+    }
+
+    // "Of several the least one": a break at each step, with a note at its side.
+    private static void everyBreak() {
+        for (int step = 1; step <= 95; step++) {
+            int s = step;
+            Script torn = EMPTY.then(x -> x.punch(8, s - 1, 1), x -> x.set(0, 0), x -> x.punch(9, s, 1),
+                    x -> x.learn(), x -> x.tear(s, 95, -1));
+            breaks(torn.play(), 1, s, 2);
+            breaks(torn.play(), 0, 0, 1);
+            Script before = EMPTY.then(x -> x.punch(9, s, 1), x -> x.learn(), x -> x.tear(s, 95, -1));
+            breaks(before.play(), 1, 0, 1);
+            breaks(before.play(), -1, 0, 0);
+        }
+        breaks(EMPTY.play(), 3, 0, 0);
+        breaks(EMPTY.then(x -> x.punch(8, 0, 96)).play(), -3, 0, 0);
+        Script whole = EMPTY.then(x -> x.punch(8, 0, 96), x -> x.learn());
+        breaks(whole.play(), 1, 0, 0);
+        breaks(whole.play(), 0, 0, 1);
+        Script nearly = EMPTY.then(x -> x.punch(8, 0, 95), x -> x.learn());
+        breaks(nearly.play(), 1, 95, 1);
+    }
+
+    // "How many holes punch() makes for this length", on a roll where there are none.
+    private static void holesForBorders() {
+        int[][] due = {{1, 2, 3, 4, 5, 6, 95, 96}, {1, 2, 2, 3, 3, 4, 48, 49}, {1, 2, 2, 2, 3, 3, 33, 33},
+            {1, 2, 2, 2, 2, 3, 25, 25}};
+        int[] lengths = {1, 2, 3, 4, 5, 6, 95, 96};
+        for (int bridge = 0; bridge <= 3; bridge++) {
+            int b = bridge;
+            for (int i = 0; i < lengths.length; i++) {
+                int length = lengths[i];
+                Script run = EMPTY.then(x -> x.set(0, b));
+                String call = "holesFor(" + length + "), bridge " + b;
+                DUE.is(call, run.ask(x -> x.holesFor(length)), due[b][i]);
+                DUE.is(call + ", on a full roll", run.then(x -> x.punch(0, 0, 96), x -> x.patch(3, 0, 95))
+                        .ask(x -> x.holesFor(length)), due[b][i]);
+                DUE.is("punch() of it", run.ask(x -> x.punch(0, 0, length)), due[b][i]);
+            }
+        }
+    }
+
+    // "count(5), as a double, divided by count(4); 0.0 if that is 0."
+    private static void shares() {
+        DUE.isExactly("nothing", EMPTY.play().tuneShare(), 0.0);
+        DUE.isExactly("none learned", EMPTY.then(x -> x.punch(0, 0, 1)).play().tuneShare(), 0.0);
+        DUE.isExactly("silence learned", EMPTY.then(x -> x.learn()).play().tuneShare(), 0.0);
+        for (int notes = 1; notes <= 20; notes++) {
+            Script run = EMPTY;
+            for (int note = 0; note < notes; note++) {
+                int n = note;
+                run = run.then(x -> x.punch(n, 4, 1));
+            }
+            run = run.then(x -> x.learn());
+            DUE.isExactly("all of " + notes, run.play().tuneShare(), 1.0);
+            for (int gone = 1; gone <= notes; gone++) {
+                int g = gone;
+                run = run.then(x -> x.patch(2 + g, 4, 4));
+                DUE.isExactly((notes - g) + " of " + notes, run.play().tuneShare(), (double) (notes - g) / notes);
+            }
         }
     }
 
     public static void main(String[] args) {
         bestSteer();
         bestSteerOfOneStep();
+        everySteering();
+        steeringThatIs();
+        steeringMakesChains();
         bestSteerErrors();
         questionsInTurn();
         bestBridge();
+        everyBridge();
         bestBreak();
+        breaksAtTheEndsOfTheRange();
+        everyBreak();
         bestBreakErrors();
         holesFor();
+        holesForBorders();
         tuneShare();
+        shares();
         digest();
+        digestOfBuffers();
+        digestOfMost();
         digestOfSpans();
         digestOfShares();
         DUE.end();
