@@ -273,6 +273,19 @@ public final class TermsTest {
         wished("it may be wished while it sounds", singles(held, 7, 43), 40, 44, "0 1 1 0 0");
     }
 
+    // "Each chain of a note is a note that is played, from its first to its last step": to sound on,
+    // held by the pedal, is not to be played.
+    private static void wishWhileSounding() {
+        Script two = singles(EMPTY.then(x -> x.set(1, 3)), 3, 40, 50).then(x -> x.punch(NONE, 40, 11));
+        DUE.is("it sounds on", two.ask(x -> x.played(0, 3)), 49);
+        wished("the reach is counted from the last step that is played", two, 40, 50, "0 0 0 0 0 0 0 0 0 0 0");
+        wished("a step short of the least reach", two.then(x -> x.set(1, 4)), 40, 50, "0 0 0 0 0 0 0 0 0 0 0");
+        wished("the least reach", two.then(x -> x.set(1, 5)), 40, 50, "0 0 0 0 0 1 0 0 0 0 0");
+        wished("sounding is not in the way", two.then(x -> x.set(1, 8)), 40, 50, "0 0 1 1 1 1 1 1 1 0 0");
+        Script without = two.then(x -> x.set(1, 8), x -> x.patch(2, 0, 95));
+        wished("the same without the pedal", without, 40, 50, "0 0 1 1 1 1 1 1 1 0 0");
+    }
+
     // At both ends of the roll there are fewer steps before or after.
     private static void wishAtTheEnds() {
         Script wide = EMPTY.then(x -> x.set(1, 8));
@@ -355,6 +368,7 @@ public final class TermsTest {
         order();
         reach();
         wish();
+        wishWhileSounding();
         wishAtTheEnds();
         rightWrongMissing();
         the512thCall();

@@ -480,6 +480,19 @@ public final class WouldBeTest {
         breaks(nearly.play(), 1, 95, 1);
     }
 
+    // "The step", and "a roll has 96 steps": to steer nowhere is no choice, even if each break harms.
+    private static void breakIsAStep() {
+        Script last = EMPTY.then(x -> x.punch(8, 10, 1), x -> x.punch(8, 95, 1), x -> x.learn());
+        for (int by = -3; by <= 3; by++) {
+            int b = by;
+            DUE.is("right as it is", last.ask(x -> x.count(5)), 2);
+            breaks(last.play(), b, b == 0 ? 0 : 11, b == 0 ? 2 : 1);
+        }
+        Script alone = EMPTY.then(x -> x.punch(8, 95, 1), x -> x.learn());
+        breaks(alone.play(), 2, 0, 0);
+        DUE.is("right as it is", alone.then(x -> x.bestBreak(2, 1)).ask(x -> x.count(5)), 1);
+    }
+
     // "How many holes punch() makes for this length", on a roll where there are none.
     private static void holesForBorders() {
         int[][] due = {{1, 2, 3, 4, 5, 6, 95, 96}, {1, 2, 2, 3, 3, 4, 48, 49}, {1, 2, 2, 2, 3, 3, 33, 33},
@@ -533,6 +546,7 @@ public final class WouldBeTest {
         bestBreak();
         breaksAtTheEndsOfTheRange();
         everyBreak();
+        breakIsAStep();
         bestBreakErrors();
         holesFor();
         holesForBorders();
